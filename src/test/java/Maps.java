@@ -2,6 +2,25 @@ import java.util.Random;
 
 /** Texts for maps: sound ones of several shapes, and wild ones with faults of every kind. */
 final class Maps {
+    private static final String MAZE = """
+            .......#...#...#
+            .#####...#.#.#..
+            ..#...#.##..#.#.
+            #.#.#..#..#...#.
+            ..#..#..#..##...
+            .#.#..#..#..####
+            ....#..#..#...#.
+            ###..#..#..##...
+            ...#..#..#...##.
+            .#...###..##..#.
+            .####...#...#...
+            ..#...#..#...###
+            #.#.##.#..##...#
+            ..#....#..####..
+            .#.###.##.#...#.
+            .......#....#...
+            """;
+
     private Maps() {
     }
 
@@ -16,10 +35,11 @@ final class Maps {
     }
 
     private static String shaped(Random random) {
-        char[][] field = switch (random.nextInt(4)) {
-            case 0 -> hall(random);
-            case 1 -> lane(random);
-            case 2 -> snake(random);
+        char[][] field = switch (random.nextInt(6)) {
+            case 0, 1 -> hall(random);
+            case 2 -> lane(random);
+            case 3 -> snake(random);
+            case 4 -> maze(random);
             default -> scatter(random);
         };
         StringBuilder text = new StringBuilder();
@@ -91,7 +111,19 @@ final class Maps {
         return field;
     }
 
-    // A way so long that a trip may need more than the 300 steps.
+    // Ways so long that a trip may need more than the 300 steps, alone or behind another one.
+    private static char[][] maze(Random random) {
+        String[] lines = MAZE.split("\n");
+        char[][] field = new char[lines.length][];
+        for (int y = 0; y < lines.length; y++) {
+            field[y] = lines[y].toCharArray();
+        }
+        strew(field, random, 'S', 2 + random.nextInt(2));
+        strew(field, random, 'P', 1 + random.nextInt(2));
+        return field;
+    }
+
+    // Ends beside a long way on which none can pass another.
     private static char[][] snake(Random random) {
         int height = 5 + random.nextInt(6) * 2;
         int width = 10 + random.nextInt(7);
