@@ -162,7 +162,7 @@ public final class FleetYard {
             case 0:
                 return account.route.start;
             case 1:
-                return account.route.start + account.route.steps;
+                return account.route.lastMoment();
             case 2:
                 return account.route.cellOfAct(i);
             case 3:
@@ -281,7 +281,7 @@ public final class FleetYard {
         takeMessages();
         driveVehicles();
         base.noteFinished(tasks, tick);
-        base.handOut(tasks, tick);
+        base.handOut(map, tasks, tick);
         base.sendGrants(radio, tick);
         tick++;
     }
@@ -825,6 +825,10 @@ public final class FleetYard {
             actMoments[acts] = start + steps;
         }
 
+        int lastMoment() {
+            return start + steps;
+        }
+
         int cellAt(int moment) {
             int step = moment - start;
             return step > 0 && step < steps && step <= MOST_STEPS ? cells[step] : parking;
@@ -1007,8 +1011,11 @@ public final class FleetYard {
         static final int TICKS_TO_GRANT_AGAIN = 4;
 
         final Account[] accounts = new Account[MOST_VEHICLES];
-        final Planner planner = new Planner(accounts);
-        YardMap map;
+        final Planner planner = new Planner();
+        int fleet;
+        // Once none is under way, a trip that was not found is not found later either.
+        int hopelessTask = NONE;
+        int hopelessVehicle = NONE;
 
         Base() {
             for (int v = 0; v < MOST_VEHICLES; v++) {
@@ -1016,24 +1023,21 @@ public final class FleetYard {
             }
         }
 
-        void beginAnew(YardMap newMap) {
-            map = newMap;
+        void beginAnew(YardMap map) {
+            fleet = Math.min(map.parkingCount, MOST_VEHICLES);
+            hopelessTask = NONE;
+            hopelessVehicle = NONE;
             for (int v = 0; v < MOST_VEHICLES; v++) {
-                accounts[v].beginAnew(newMap.parkingCell(v));
+                accounts[v].beginAnew(map.parkingCell(v));
             }
         }
 
-        int fleetSize() {
-            return map == null ? 0 : Math.min(map.parkingCount, MOST_VEHICLES);
-        }
-
         Account accountAt(int v) {
-            return v >= 0 && v < fleetSize() ? accounts[v] : null;
+            return v >= 0 && v < fleet ? accounts[v] : null;
         }
 
         int waitingAt(int c) {
             int waiting = 0;
-            int fleet = fleetSize();
             for (int v = 0; v < fleet; v++) {
                 waiting += accounts[v].openActsTo(c);
             }
@@ -1043,7 +1047,6 @@ public final class FleetYard {
         int firstWaitingAt(int c) {
             int first = NONE;
             int firstMoment = 0;
-            int fleet = fleetSize();
             for (int v = 0; v < fleet; v++) {
                 int act = accounts[v].nextActTo(c);
                 int moment = accounts[v].route.momentOfAct(act);
@@ -1056,7 +1059,6 @@ public final class FleetYard {
         }
 
         void noteFinished(TaskBook tasks, int tick) {
-            int fleet = fleetSize();
             for (int v = 0; v < fleet; v++) {
                 Account account = accounts[v];
                 if (!account.isIdle() && account.isDoneWhole()) {
@@ -1066,17 +1068,16 @@ public final class FleetYard {
             }
         }
 
-        void handOut(TaskBook tasks, int tick) {
+        void handOut(YardMap map, TaskBook tasks, int tick) {
             for (int i = tasks.given; i < tasks.came; i++) {
                 int v = leastIdle();
-                if (v == NONE || !givePlan(v, tasks, i, tick)) {
+                if (v == NONE || !givePlan(map, v, tasks, i, tick)) {
                     return;
                 }
             }
         }
 
         private int leastIdle() {
-            int fleet = fleetSize();
             for (int v = 0; v < fleet; v++) {
                 if (accounts[v].isIdle()) {
                     return v;
@@ -1085,13 +1086,17 @@ public final class FleetYard {
             return NONE;
         }
 
-        private boolean givePlan(int v, TaskBook tasks, int i, int tick) {
-            if (map == null || v < 0 || v >= MOST_VEHICLES || !tasks.has(i)) {
+        private boolean givePlan(YardMap map, int v, TaskBook tasks, int i, int tick) {
+            if (v < 0 || v >= MOST_VEHICLES || !tasks.has(i)) {
+                return false;
+            }
+            if (hopelessTask == i && hopelessVehicle == v) {
                 return false;
             }
             int from = map.stationCell(tasks.from[i]);
             int to = map.stationCell(tasks.to[i]);
-            if (!planner.findTrip(map, v, from, to, tick)) {
+            if (!planner.findTrip(map, accounts, v, from, to, tick)) {
+                noteHopeless(v, i, tick);
                 return false;
             }
             accounts[v].take(i);
@@ -1099,8 +1104,17 @@ public final class FleetYard {
             return true;
         }
 
+        private void noteHopeless(int v, int i, int tick) {
+            for (int other = 0; other < fleet; other++) {
+                if (accounts[other].route.lastMoment() > tick) {
+                    return;
+                }
+            }
+            hopelessTask = i;
+            hopelessVehicle = v;
+        }
+
         void sendGrants(Radio radio, int tick) {
-            int fleet = fleetSize();
             for (int v = 0; v < fleet; v++) {
                 Account account = accounts[v];
                 int act = account.actsKnown() + 1;
@@ -1140,10 +1154,10 @@ public final class FleetYard {
         final int[] open = new int[MOST_LINES];
         // Of each stage the cell where staying leads to the next one.
         final int[] turns = new int[LAYER];
-        final Account[] accounts;
         int[] heldBefore = new int[MOST_LINES];
         int[] heldAfter = new int[MOST_LINES];
         YardMap map;
+        Account[] accounts;
         int lines;
         int own;
         int start;
@@ -1151,15 +1165,12 @@ public final class FleetYard {
         int to;
         int parking;
 
-        Planner(Account[] fleet) {
-            accounts = fleet;
-        }
-
-        boolean findTrip(YardMap yard, int v, int a, int b, int moment) {
-            if (yard == null || v < 0 || v >= accounts.length) {
+        boolean findTrip(YardMap yard, Account[] fleet, int v, int a, int b, int moment) {
+            if (yard == null || fleet == null || v < 0 || v >= fleet.length) {
                 return false;
             }
             map = yard;
+            accounts = fleet;
             own = v;
             start = moment;
             from = a;
@@ -1172,7 +1183,7 @@ public final class FleetYard {
                 return false;
             }
             keepWhatLeadsHome(steps);
-            followFirst(steps, accounts[v].route);
+            followFirst(steps, fleet[v].route);
             return true;
         }
 
@@ -1230,11 +1241,12 @@ public final class FleetYard {
         private void spreadStage(int step, int stage) {
             int now = rowOf(step, stage);
             int next = rowOf(step + 1, stage);
+            int turn = rowOf(0, stage);
             for (int line = 0; line < lines; line++) {
                 int free = open[line] & ~heldBefore[line] & ~heldAfter[line];
-                int stays = reached[now + line] & ~turns[rowOf(0, stage) + line];
+                int stays = reached[now + line] & ~turns[turn + line];
                 int turned = stage == EMPTY ? 0
-                        : reached[now - MOST_LINES + line] & turns[rowOf(0, stage - 1) + line];
+                        : reached[now - MOST_LINES + line] & turns[turn - MOST_LINES + line];
                 reached[next + line] = free & (stays | turned | beside(now, line));
             }
         }
