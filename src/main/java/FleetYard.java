@@ -45,6 +45,7 @@ public final class FleetYard {
         map.addCell(PARKING);
         map.addCell(STATION);
         map.width = 2;
+        map.joinCells();
         beginAnew();
     }
 
@@ -106,7 +107,12 @@ public final class FleetYard {
         }
         int finishedBefore = tasks.finished;
         for (int i = 0; i < n; i++) {
-            doTick();
+            takeMessages();
+            driveVehicles();
+            base.noteFinished(tasks, tick);
+            base.handOut(map, tasks, tick);
+            base.sendGrants(radio, tick);
+            tick++;
         }
         return tasks.finished - finishedBefore;
     }
@@ -277,15 +283,6 @@ public final class FleetYard {
         }
     }
 
-    private void doTick() {
-        takeMessages();
-        driveVehicles();
-        base.noteFinished(tasks, tick);
-        base.handOut(map, tasks, tick);
-        base.sendGrants(radio, tick);
-        tick++;
-    }
-
     private void takeMessages() {
         for (int v = 0; v < MOST_VEHICLES; v++) {
             vehicles[v].silent++;
@@ -354,6 +351,7 @@ public final class FleetYard {
     private static final class YardMap {
         final int[] kinds = new int[MOST_CELLS];
         final int[] ordinals = new int[MOST_CELLS];
+        final int[] neighbours = new int[MOST_CELLS * SIDES];
         final int[] stations = new int[MOST_STATIONS];
         final int[] parkings = new int[MOST_VEHICLES];
         int cells;
@@ -424,35 +422,35 @@ public final class FleetYard {
             return p >= 0 && p < parkingCount && p < MOST_VEHICLES ? parkings[p] : NONE;
         }
 
-        int lineOf(int c) {
-            return width > 0 ? c / width : 0;
-        }
-
-        int columnOf(int c) {
-            return width > 0 ? c % width : 0;
-        }
-
-        int neighbour(int c, int side) {
-            int next = cellBeside(c, side);
-            return kindOf(next) == WALL ? NONE : next;
+        /** Called when all cells are there: the sides of a cell are not known earlier. */
+        void joinCells() {
+            for (int c = 0; c < cells && c < MOST_CELLS; c++) {
+                for (int side = 0; side < SIDES; side++) {
+                    int next = cellBeside(c, side);
+                    neighbours[c * SIDES + side] = kindOf(next) == WALL ? NONE : next;
+                }
+            }
         }
 
         private int cellBeside(int c, int side) {
-            if (!hasCell(c)) {
-                return NONE;
-            }
+            int column = width > 0 ? c % width : 0;
             switch (side) {
                 case 0:
                     return c >= width ? c - width : NONE;
                 case 1:
-                    return columnOf(c) + 1 < width ? c + 1 : NONE;
+                    return column + 1 < width ? c + 1 : NONE;
                 case 2:
                     return c + width < cells ? c + width : NONE;
                 case 3:
-                    return columnOf(c) > 0 ? c - 1 : NONE;
+                    return column > 0 ? c - 1 : NONE;
                 default:
                     return NONE;
             }
+        }
+
+        int neighbour(int c, int side) {
+            boolean isThere = hasCell(c) && side >= 0 && side < SIDES;
+            return isThere ? neighbours[c * SIDES + side] : NONE;
         }
     }
 
@@ -478,6 +476,7 @@ public final class FleetYard {
             column = 0;
             int fault = faultOfSigns(tape, map);
             if (fault == NO_FAULT) {
+                map.joinCells();
                 fault = faultOfNumbers(map);
             }
             if (fault == NO_FAULT) {
@@ -1158,6 +1157,7 @@ public final class FleetYard {
         int[] heldAfter = new int[MOST_LINES];
         YardMap map;
         Account[] accounts;
+        int width = 1;
         int lines;
         int own;
         int start;
@@ -1166,17 +1166,18 @@ public final class FleetYard {
         int parking;
 
         boolean findTrip(YardMap yard, Account[] fleet, int v, int a, int b, int moment) {
-            if (yard == null || fleet == null || v < 0 || v >= fleet.length) {
+            if (yard == null || yard.width <= 0 || fleet == null || v < 0 || v >= fleet.length) {
                 return false;
             }
             map = yard;
             accounts = fleet;
+            width = yard.width;
+            lines = Math.min(MOST_LINES, yard.cells / width);
             own = v;
             start = moment;
             from = a;
             to = b;
             parking = yard.parkingCell(v);
-            lines = Math.min(MOST_LINES, yard.lineOf(yard.cells - 1) + 1);
             markGround();
             int steps = spread();
             if (steps == NONE) {
@@ -1212,7 +1213,7 @@ public final class FleetYard {
                 for (int stage = 0; stage < STAGES; stage++) {
                     spreadStage(step, stage);
                 }
-                if (isMarked(step + 1, DONE, parking)) {
+                if (isReached(rowOf(step + 1, DONE), parking)) {
                     return step + 1;
                 }
             }
@@ -1279,8 +1280,8 @@ public final class FleetYard {
             for (int step = 1; step <= steps; step++) {
                 boolean turning = stage == EMPTY && c == from || stage == LOADED && c == to;
                 int stageOfStay = turning ? stage + 1 : stage;
-                if (!isMarked(step, stageOfStay, c)) {
-                    c = firstWayOn(step, stage, c);
+                if (!isReached(rowOf(step, stageOfStay), c)) {
+                    c = firstWayOn(rowOf(step, stage), c);
                     route.addMove(c);
                 } else if (turning) {
                     stage = stageOfStay;
@@ -1291,10 +1292,10 @@ public final class FleetYard {
             }
         }
 
-        private int firstWayOn(int step, int stage, int c) {
+        private int firstWayOn(int row, int c) {
             for (int side = 0; side < SIDES; side++) {
                 int next = map.neighbour(c, side);
-                if (isMarked(step, stage, next)) {
+                if (isReached(row, next)) {
                     return next;
                 }
             }
@@ -1320,18 +1321,21 @@ public final class FleetYard {
         }
 
         private void mark(int[] set, int row, int c) {
-            int at = row + map.lineOf(c);
-            if (c >= 0 && at >= 0 && at < set.length) {
-                set[at] |= 1 << map.columnOf(c);
+            if (c < 0 || width <= 0) {
+                return;
+            }
+            int at = row + c / width;
+            if (at >= 0 && at < set.length) {
+                set[at] |= 1 << c % width;
             }
         }
 
-        private boolean isMarked(int step, int stage, int c) {
-            int at = rowOf(step, stage) + map.lineOf(c);
-            if (c < 0 || at < 0 || at >= reached.length) {
+        private boolean isReached(int row, int c) {
+            if (c < 0 || width <= 0) {
                 return false;
             }
-            return (reached[at] >>> map.columnOf(c) & 1) != 0;
+            int at = row + c / width;
+            return at >= 0 && at < reached.length && (reached[at] >>> c % width & 1) != 0;
         }
     }
 }

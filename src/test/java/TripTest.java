@@ -31,6 +31,8 @@ public final class TripTest {
         waitingForAnother();
         longest();
         tooLong();
+        tooLongForOneOfTwo();
+        tooLongIsForgottenWithTheMap();
         noneMeetsAnother();
         CHECK.end();
     }
@@ -150,6 +152,38 @@ public final class TripTest {
         second.task(1, 2);
         second.run(1);
         CHECK.due("the TASK behind it has a PLAN", second.count(5), 1);
+    }
+
+    // A second PARKING, near both STATIONS: VEHICLE 1 never has a PLAN, VEHICLE 0 has one when IDLE.
+    private static void tooLongForOneOfTwo() {
+        FleetYard yard = Check.yardOf(TOO_LONG.replace("#.#S#..", "#.#SP.."));
+        CHECK.due("vehicles", yard.count(2), 2);
+        yard.task(0, 2);
+        yard.task(0, 2);
+        yard.task(2, 0);
+        yard.run(1);
+        CHECK.due("VEHICLE 0 gets one, VEHICLE 1 none", yard.count(5), 1);
+        int last = yard.plan(0, 0, 1);
+        for (int i = 1; i < 2 * last; i++) {
+            yard.run(1);
+            CHECK.due("waits", yard.count(5), 1);
+        }
+        CHECK.due("FINISHED", yard.run(1), 1);
+        CHECK.due("VEHICLE 0 gets the next one", yard.told(1, 2), 0);
+        CHECK.due("at once", yard.told(1, 3), 2 * last);
+        CHECK.due("the third waits", yard.told(2, 2), -1);
+    }
+
+    private static void tooLongIsForgottenWithTheMap() {
+        FleetYard yard = Check.yardOf(TOO_LONG);
+        yard.task(0, 2);
+        yard.run(3);
+        CHECK.due("not given", yard.count(5), 0);
+        Check.write(yard, "P..S\n...S\n");
+        yard.read();
+        yard.task(0, 1);
+        yard.run(1);
+        CHECK.due("given", yard.count(5), 1);
     }
 
     private static void noneMeetsAnother() {
