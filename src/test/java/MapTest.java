@@ -58,7 +58,7 @@ public final class MapTest {
         CHECK.due("count(12)", yard.count(12), 0);
     }
 
-    // 0x505350... : the highest byte of the first word is the first, the lowest of the fifth the last.
+    // The text is P.S|...|...|S.S|... and a byte too many.
     private static void bytesOfWords() {
         FleetYard yard = new FleetYard();
         CHECK.due("feed", yard.feed(0x502E530A, 0x2E2E2E0A, 0x2E2E2E0A, 0x532E530A, 0x2E2E2E53), 20);
