@@ -3,6 +3,8 @@ final class Check {
     private static final int MOST_PRINTED = 40;
 
     private final String test;
+    private String sentence = "";
+    private int sentences;
     private int made;
     private int wrong;
 
@@ -10,12 +12,18 @@ final class Check {
         this.test = test;
     }
 
+    /** What follows, until the next call of this, holds the class to these words of the document. */
+    void about(String words) {
+        sentence = words;
+        sentences++;
+    }
+
     void due(String call, int got, int want) {
         made++;
         if (got != want) {
             wrong++;
             if (wrong <= MOST_PRINTED) {
-                System.out.println(call + " answered " + got + ", due is " + want);
+                System.out.println("[" + sentence + "] " + call + " answered " + got + ", due is " + want);
             }
         }
     }
@@ -29,33 +37,10 @@ final class Check {
     }
 
     void end() {
-        System.out.println(test + ": " + made + " answers, " + wrong + " not as due");
-        if (wrong != 0) {
+        System.out.println(test + ": " + sentences + " sentences, " + made + " answers, " + wrong
+                + " not as due");
+        if (wrong != 0 || made == 0) {
             System.exit(1);
         }
-    }
-
-    /** Puts the text on the tape: whole words of five, and what is too much goes back again. */
-    static void write(FleetYard yard, String text) {
-        for (int i = 0; i < text.length(); i += 20) {
-            yard.feed(word(text, i), word(text, i + 4), word(text, i + 8), word(text, i + 12),
-                    word(text, i + 16));
-        }
-        yard.back((20 - text.length() % 20) % 20);
-    }
-
-    static int word(String text, int at) {
-        int word = 0;
-        for (int i = at; i < at + 4; i++) {
-            word = word << 8 | (i < text.length() ? text.charAt(i) & 255 : 0);
-        }
-        return word;
-    }
-
-    static FleetYard yardOf(String text) {
-        FleetYard yard = new FleetYard();
-        write(yard, text);
-        yard.read();
-        return yard;
     }
 }

@@ -15,6 +15,7 @@ public final class FaceTest {
             "int plan(int,int,int)", "int told(int,int)", "int count(int)");
 
     public static void main(String[] args) {
+        CHECK.about("The public face");
         CHECK.due("NONE", FleetYard.NONE, -1);
         CHECK.due("public and final", FleetYard.class.getModifiers(),
                 Modifier.PUBLIC | Modifier.FINAL);

@@ -1,285 +1,378 @@
-/** Promises 1 to 5 and what cell and count say of a map: the tape, the map and its faults. */
+/** Part I: the MAP, its CELLS and NEIGHBOURS, and its FAULTS 1 to 5 with their places. */
 public final class MapTest {
     private static final Check CHECK = new Check("MapTest");
+    private static final String DOTS15 = ".".repeat(15);
+    private static final String DOTS16 = ".".repeat(16);
 
     public static void main(String[] args) {
-        newObject();
-        feedAndBack();
-        bytesOfWords();
-        signsAndLengths();
-        sizes();
-        numbers();
-        ways();
-        tapeAndPlaceAfterRead();
-        faultChangesNothing();
-        soundMapBeginsAnew();
-        cells();
+        lastLineEndsOrNot();
+        wrongSign();
+        lineTooLong();
+        lineTooShort();
+        firstLineEmpty();
+        seventeenthLine();
+        seventeenthByte();
+        firstByPlace();
+        leastOfOnePlace();
+        faultsOfBytesAheadOfOthers();
+        parkings();
+        stations();
+        placeOfFaultFour();
+        faultFourAheadOfFive();
+        wayWithoutCellsBetween();
+        wayAroundWalls();
+        wayPassesNoEndpoint();
+        firstOfTheFirstTwo();
+        linesDoNotTouchAtTheirEnds();
+        oneEndpoint();
+        longestText();
+        cellsLineByLine();
+        endpointsByTheirCells();
+        neighbours();
+        neighboursOfSmallMaps();
+        neighboursInTheLargestMap();
         CHECK.end();
     }
 
-    private static void newObject() {
-        FleetYard yard = new FleetYard();
-        int[] counts = {2, 2, 1, 1, 0, 0, 0, 0, 0, 0, 0, 0, 0};
-        for (int what = 0; what < counts.length; what++) {
-            CHECK.due("new: count(" + what + ")", yard.count(what), counts[what]);
-        }
-        CHECK.due("new: count(13)", yard.count(13), -1);
-        CHECK.due("new: count(-1)", yard.count(-1), -1);
-        CHECK.due("new: cell(0, 0)", yard.cell(0, 0), 3);
-        CHECK.due("new: cell(1, 0)", yard.cell(1, 0), 2);
-        CHECK.due("new: cell(0, 2)", yard.cell(0, 2), 0);
-        CHECK.due("new: cell(1, 2)", yard.cell(1, 2), -1);
-        CHECK.due("new: place()", yard.place(), -1);
-        CHECK.due("new: fate(0, 15)", yard.fate(0, 15), true);
-        CHECK.due("new: fate(1, 0)", yard.fate(1, 0), false);
-        CHECK.due("new: vehicle(0, 7)", yard.vehicle(0, 7), 1);
-        CHECK.due("new: vehicle(1, 7)", yard.vehicle(1, 7), -1);
-    }
-
-    private static void feedAndBack() {
-        FleetYard yard = new FleetYard();
-        CHECK.due("back(0) of nothing", yard.back(0), 0);
-        CHECK.due("back(1) of nothing", yard.back(1), -1);
-        for (int i = 1; i <= 20; i++) {
-            CHECK.due("feed " + i, yard.feed(-1, 0, i, 7, 9), 20 * i);
-        }
-        CHECK.due("feed above 400", yard.feed(1, 2, 3, 4, 5), -1);
-        CHECK.due("count(12)", yard.count(12), 400);
-        CHECK.due("back(-1)", yard.back(-1), -1);
-        CHECK.due("back(least)", yard.back(Integer.MIN_VALUE), -1);
-        CHECK.due("back(401)", yard.back(401), -1);
-        CHECK.due("back(greatest)", yard.back(Integer.MAX_VALUE), -1);
-        CHECK.due("count(12)", yard.count(12), 400);
-        CHECK.due("back(19)", yard.back(19), 381);
-        CHECK.due("feed to 401", yard.feed(1, 2, 3, 4, 5), -1);
-        CHECK.due("back(1)", yard.back(1), 380);
-        CHECK.due("feed to 400", yard.feed(1, 2, 3, 4, 5), 400);
-        CHECK.due("back(400)", yard.back(400), 0);
-        CHECK.due("count(12)", yard.count(12), 0);
-    }
-
-    // The text is P.S|...|...|S.S|... and a byte too many.
-    private static void bytesOfWords() {
-        FleetYard yard = new FleetYard();
-        CHECK.due("feed", yard.feed(0x502E530A, 0x2E2E2E0A, 0x2E2E2E0A, 0x532E530A, 0x2E2E2E53), 20);
-        CHECK.due("back", yard.back(1), 19);
-        CHECK.due("read()", yard.read(), 0);
-        CHECK.due("cells", yard.count(0), 15);
-        CHECK.due("cell(0, 0)", yard.cell(0, 0), 3);
-        CHECK.due("cell(2, 0)", yard.cell(2, 0), 2);
-        CHECK.due("cell(9, 0)", yard.cell(9, 0), 2);
-        CHECK.due("cell(11, 0)", yard.cell(11, 0), 2);
-        yard.feed(0xD02E530A, 0, 0, 0, 0);
-        yard.back(16);
-        CHECK.due("a byte of 208", yard.read(), 1);
-        CHECK.due("its place", yard.place(), 0);
-    }
-
     private static void judged(String text, int fault, int place) {
-        FleetYard yard = new FleetYard();
-        Check.write(yard, text);
+        Yard yard = new Yard();
+        yard.write(text);
         String shown = text.replace("\n", "|");
         CHECK.due("read() of " + shown, yard.read(), fault);
         CHECK.due("place() of " + shown, yard.place(), place);
     }
 
-    private static void signsAndLengths() {
-        judged("", 2, 0);
-        judged("\n", 2, 0);
-        judged("\nPS", 2, 0);
-        judged("\n?", 2, 0);
-        judged("P", 0, -1);
-        judged("PS", 0, -1);
-        judged("PS\n", 0, -1);
-        judged("PS\n\n", 2, 3);
-        judged("PS\n\n..", 2, 3);
+    private static void sound(String text) {
+        judged(text, 0, -1);
+    }
+
+    private static void lastLineEndsOrNot() {
+        CHECK.about("LINES of signs with byte 10 behind each (behind the last one or not)");
+        sound("P");
+        sound("P\n");
+        sound("PS");
+        sound("PS\n");
+        sound("PS\n..");
+        sound("PS\n..\n");
+        judged("PS\n..\n\n", 2, 6);
+        Yard yard = Yard.of("PS\n..\n");
+        CHECK.due("no LINE behind the last byte 10", yard.count(0), 4);
+    }
+
+    private static void wrongSign() {
+        CHECK.about("FAULT 1 at the first byte that is no such sign");
         judged("?", 1, 0);
         judged("P?", 1, 1);
-        judged("P ", 1, 1);
+        judged("P?S?", 1, 1);
+        judged("??", 1, 0);
+        judged("PS\n?.", 1, 3);
+        judged("PS\n.?", 1, 4);
+        judged("PS\n..\n.?\n?.", 1, 7);
         judged("ps", 1, 0);
-        judged("P\u0000", 1, 1);
         judged("PS\r\n", 1, 2);
-        judged("P\u00ff", 1, 1);
+        judged("P\u0000", 1, 1);
+        judged("P ", 1, 1);
+        judged("P\u00d0", 1, 1);
+        judged("P\u008a", 1, 1);
+    }
+
+    private static void lineTooLong() {
+        CHECK.about("FAULT 2 at the first byte by which a LINE is longer than the first one");
+        sound("PS\n..");
+        judged("PS\n...", 2, 5);
+        judged("PS\n....", 2, 5);
+        judged("PS\n...\n", 2, 5);
+        judged("PS\n..\n...", 2, 8);
+        judged("PS\n...\n....", 2, 5);
+        judged("P\n..", 2, 3);
+        judged("P" + DOTS15.substring(1) + "\n" + DOTS16, 2, 31);
+    }
+
+    private static void lineTooShort() {
+        CHECK.about("FAULT 2 at the end (byte 10, the text's end) of the first LINE that is shorter");
         judged("PS\n.", 2, 4);
         judged("PS\n.\n", 2, 4);
-        judged("PS\n...", 2, 5);
-        judged("PS\n...?", 2, 5);
-        judged("PS\n..?", 1, 5);
-        judged("PS\n.?", 1, 4);
-        judged("PS\n.\n?", 2, 4);
+        judged("PS\n.\n..", 2, 4);
+        judged("PS\n\n", 2, 3);
+        judged("PS\n\n..", 2, 3);
         judged("PS\n..\n.", 2, 7);
-        judged("PS\n..\n", 0, -1);
+        judged("PS\n..\n.\n", 2, 7);
+        judged("P..\n..\n.\n", 2, 6);
+        judged("P..\n...\n..", 2, 10);
+        judged("P..\n...\n\n", 2, 8);
+        judged("P\n\n", 2, 2);
+        judged("P" + DOTS15 + "\n" + DOTS15, 2, 32);
     }
 
-    private static void sizes() {
-        String dots15 = ".".repeat(15);
-        judged("P" + dots15, 0, -1);
-        judged("P" + dots15 + ".", 3, 16);
-        judged("P" + dots15 + "?", 1, 16);
-        judged("P" + dots15 + "..?", 3, 16);
-        judged("P" + dots15 + "\n" + dots15 + "..", 2, 33);
-        judged("P" + dots15 + "\n" + dots15 + ".?", 1, 33);
-        judged("P\n" + ".\n".repeat(15), 0, -1);
-        judged("P\n" + ".\n".repeat(14) + ".", 0, -1);
+    private static void firstLineEmpty() {
+        CHECK.about("FAULT 2 at the end (byte 10, the text's end) of a first LINE that is empty");
+        judged("", 2, 0);
+        judged("\n", 2, 0);
+        judged("\n\n", 2, 0);
+        judged("\nPS", 2, 0);
+        judged("\n?", 2, 0);
+    }
+
+    private static void seventeenthLine() {
+        CHECK.about("FAULT 3 at the 17th LINE's first byte");
+        sound("P\n" + ".\n".repeat(13) + ".");
+        sound("P\n" + ".\n".repeat(14));
+        sound("P\n" + ".\n".repeat(14) + ".");
+        sound("P\n" + ".\n".repeat(15));
         judged("P\n" + ".\n".repeat(15) + ".", 3, 32);
         judged("P\n" + ".\n".repeat(15) + ".\n", 3, 32);
-        judged("P\n" + ".\n".repeat(15) + "\n", 2, 32);
-        judged("P\n" + ".\n".repeat(15) + "?", 1, 32);
+        judged("P\n" + ".\n".repeat(16) + ".", 3, 32);
+        judged("P.\n" + "..\n".repeat(15) + "..", 3, 48);
+        judged("P" + DOTS15 + "\n" + (DOTS16 + "\n").repeat(15) + ".", 3, 272);
+        judged("P" + DOTS15 + "\n" + (DOTS16 + "\n").repeat(15) + "\n", 2, 272);
+    }
+
+    private static void seventeenthByte() {
+        CHECK.about("FAULT 3 at a LINE's 17th byte (no byte 10)");
+        sound("P" + DOTS15.substring(1));
+        sound("P" + DOTS15);
+        sound("P" + DOTS15 + "\n");
+        judged("P" + DOTS16, 3, 16);
+        judged("P" + DOTS16 + "\n", 3, 16);
+        judged("P" + DOTS16 + ".", 3, 16);
+        judged("P" + DOTS16 + "\n" + DOTS16 + ".", 3, 16);
+    }
+
+    private static void firstByPlace() {
+        CHECK.about("FAULTS 1, 2, 3: the first of these by its place");
+        judged("P?\n.", 1, 1);
+        judged("PS\n.\n?", 2, 4);
+        judged("PS\n...?", 2, 5);
+        judged("P?" + DOTS16, 1, 1);
+        judged("P" + DOTS16 + "?", 3, 16);
+        judged("P" + DOTS15.substring(1) + "\n" + DOTS16 + ".", 2, 31);
+        judged("P" + DOTS16 + "\n.", 3, 16);
+        judged("P.\n" + "..\n".repeat(15) + "...", 3, 48);
         judged("P.\n" + "..\n".repeat(15) + ".", 3, 48);
-        judged("P" + dots15 + "\n" + (dots15 + ".\n").repeat(15), 0, -1);
-        FleetYard yard = Check.yardOf("P" + dots15 + "\n" + (dots15 + ".\n").repeat(15));
-        CHECK.due("cells of the largest map", yard.count(0), 256);
-        CHECK.due("cells of its line", yard.count(1), 16);
-        CHECK.due("its last cell", yard.cell(255, 0), 1);
-        CHECK.due("none behind it", yard.cell(256, 0), -1);
+        judged("P.\n" + "..\n".repeat(15) + ".?", 3, 48);
+        judged("P.\n" + "..\n".repeat(14) + ".?\n.", 1, 46);
+        judged("P.\n" + "..\n".repeat(14) + ".\n..", 2, 46);
     }
 
-    private static void numbers() {
+    private static void leastOfOnePlace() {
+        CHECK.about("FAULTS 1, 2, 3: of one place the least");
+        judged("PS\n..?", 1, 5);
+        judged("P" + DOTS15 + "?", 1, 16);
+        judged("P\n" + ".\n".repeat(15) + "?", 1, 32);
+        judged("P" + DOTS15 + "\n" + DOTS16 + ".", 2, 33);
+        judged("P" + DOTS15 + "\n" + DOTS16 + "?", 1, 33);
+        judged("P\n" + ".\n".repeat(15) + "\n", 2, 32);
+    }
+
+    private static void faultsOfBytesAheadOfOthers() {
+        CHECK.about("FAULTS 1, 2, 3; else 4; else 5");
+        judged("S#S?", 1, 3);
+        judged("S#S\n..", 2, 6);
+        judged("S#" + DOTS15, 3, 16);
+        judged("P#S?", 1, 3);
+        judged("P#S\n....", 2, 7);
+        judged("P#" + DOTS15, 3, 16);
+        judged("P#S\n" + "...\n".repeat(16), 3, 64);
+    }
+
+    private static void parkings() {
+        CHECK.about("FAULT 4: no PARKING, more than 6");
         judged(".", 4, 1);
-        judged("S.\n", 4, 3);
+        judged("S.", 4, 2);
         judged("#", 4, 1);
-        judged("#\n", 4, 2);
-        judged("PPPPPP\n......", 0, -1);
+        sound("P");
+        sound("PPPPP\n.....");
+        sound("PPPPPP\n......");
         judged("PPPPPPP\n.......", 4, 15);
-        judged("PSSSSSSSSSS\n...........", 0, -1);
-        judged("PSSSSSSSSSSS\n............", 4, 25);
-        judged("P#P#P#P#P#P#P", 4, 13);
-        judged("S#S\n", 4, 4);
+        judged("PPPPPPPP\n........", 4, 17);
+        judged(("P".repeat(16) + "\n").repeat(16), 4, 272);
+        CHECK.due("six VEHICLES", Yard.of("PPPPPP\n......").count(2), 6);
     }
 
-    private static void ways() {
+    private static void stations() {
+        CHECK.about("FAULT 4: more than 10 STATIONS");
+        sound("P");
+        sound("PSSSSSSSSS\n..........");
+        sound("PSSSSSSSSSS\n...........");
+        judged("PSSSSSSSSSSS\n............", 4, 25);
+        judged("PSSSSSSSSSSSS\n.............", 4, 27);
+        sound("PPPPPPSSSSSSSSSS\n" + DOTS16);
+        judged("PPPPPPPSSSSSSSSS\n" + DOTS16, 4, 33);
+        judged("PPPPPSSSSSSSSSSS\n" + DOTS16, 4, 33);
+        CHECK.due("no STATION", Yard.of("P.").count(3), 0);
+        CHECK.due("ten STATIONS", Yard.of("PSSSSSSSSSS\n...........").count(3), 10);
+    }
+
+    private static void placeOfFaultFour() {
+        CHECK.about("FAULT 4 (place: the text's length)");
+        judged("S", 4, 1);
+        judged("S\n", 4, 2);
+        judged("S.\n..", 4, 5);
+        judged("S.\n..\n", 4, 6);
+        judged((DOTS16 + "\n").repeat(15) + DOTS16, 4, 271);
+        judged((DOTS16 + "\n").repeat(16), 4, 272);
+    }
+
+    private static void faultFourAheadOfFive() {
+        CHECK.about("FAULT 4 ahead of FAULT 5");
+        judged("S#S", 4, 3);
+        judged("P#P#P#P#P#P#P", 4, 13);
+        judged("P#S#S#S#S#S#S#S#\nS#S#S#S#........", 4, 33);
+    }
+
+    private static void wayWithoutCellsBetween() {
+        CHECK.about("A WAY: a row of NEIGHBOURS from one to the other");
+        sound("PS");
+        sound("PP");
+        sound("P\nS");
+        sound("S\nP");
+        sound("P.S");
+        sound("P.\n#S\n");
+        judged("P#\n#S", 5, 0);
+    }
+
+    private static void wayAroundWalls() {
+        CHECK.about("A WAY has no WALL");
         judged("P#S", 5, 0);
-        judged("#P#S", 5, 1);
+        judged("P\n#\nS", 5, 0);
+        sound("P#S\n...");
+        judged("P#S\n.#.", 5, 0);
+        sound("P#S\n.#.\n...");
+        sound("#####\n#P.S#\n#####");
+        judged("P.S\n###\n..S", 5, 0);
+    }
+
+    private static void wayPassesNoEndpoint() {
+        CHECK.about("A WAY of which no CELL between is an ENDPOINT");
         judged("PSS", 5, 0);
         judged("SPS", 5, 0);
-        judged("PSS\n...", 0, -1);
-        judged("P.S\n###\n..S", 5, 0);
+        judged("PPP", 5, 0);
+        judged("SPP", 5, 0);
+        judged("PPS", 5, 0);
+        judged("P.S.S", 5, 0);
+        sound("PSS\n...");
+        sound("SPS\n...");
         judged("P.S\n##.\n..S", 5, 0);
+        sound("P.S\n...\n..S");
+    }
+
+    private static void firstOfTheFirstTwo() {
+        CHECK.about("FAULT 5 (place: the CELL of the first of the first two, by their CELLS)");
+        judged("#P#S", 5, 1);
+        judged("#S#P", 5, 1);
+        // A CELL, not a byte: the byte is 4 here.
         judged(".P.\nS#S", 5, 3);
-        judged(".P.\nS.S", 0, -1);
-        judged("#####\n#P.S#\n#####", 0, -1);
-        judged("P\nS", 0, -1);
-        judged("P.\n#S", 0, -1);
-        judged("P#\n#S", 5, 0);
-        judged("P##\n###\n###", 0, -1);
-        // The end of a line and the beginning of the next one do not touch.
-        judged("..P\nS##", 0, -1);
+        sound(".P.\nS.S");
+        judged("SP.\n#S.\n##P", 5, 0);
+        // The first, in CELL 1, reaches all others; the one in 4 does not reach those in 6 and 7.
+        judged(".S..\nP#PS", 5, 4);
+        // 253 and 255 are the only ones; the WALLS are CELLS too.
+        judged((DOTS16 + "\n").repeat(14) + DOTS15 + "#\n" + ".".repeat(13) + "S#P", 5, 253);
+        judged("#\n#\nP\n#\nS", 5, 2);
+    }
+
+    private static void linesDoNotTouchAtTheirEnds() {
+        CHECK.about("NEIGHBOURS are above, right, below, left: not over the end of a LINE");
         judged("##P\nS##", 5, 2);
+        judged("P##\n##S", 5, 0);
+        judged("P#\n.#\n#S", 5, 0);
+        sound("..P\nS##");
     }
 
-    private static void tapeAndPlaceAfterRead() {
-        FleetYard yard = new FleetYard();
-        Check.write(yard, "P.?");
-        CHECK.due("count(12)", yard.count(12), 3);
-        CHECK.due("read()", yard.read(), 1);
-        CHECK.due("count(12) behind a fault", yard.count(12), 0);
-        CHECK.due("place()", yard.place(), 2);
-        CHECK.due("place() again", yard.place(), 2);
-        Check.write(yard, "P.");
-        CHECK.due("place() ahead of read()", yard.place(), 2);
-        CHECK.due("read()", yard.read(), 0);
-        CHECK.due("count(12) behind a map", yard.count(12), 0);
-        CHECK.due("place()", yard.place(), -1);
+    private static void oneEndpoint() {
+        CHECK.about("FAULT 5 needs two ENDPOINTS");
+        sound("P");
+        sound("P##\n###\n###");
+        sound("#P#");
     }
 
-    private static void faultChangesNothing() {
-        FleetYard yard = Check.yardOf("P..S\n...S\n");
-        yard.fates(5);
-        yard.fate(4, 1);
-        yard.task(1, 0);
-        yard.run(8);
-        int[] before = stateOf(yard);
-        String[] faulty = {"", "P?", "PS\nP", "P" + ".".repeat(16), "SS", "P#S"};
-        for (String text : faulty) {
-            Check.write(yard, text);
-            CHECK.due("read() has a fault", yard.read() > 0, true);
-            int[] after = stateOf(yard);
-            for (int i = 0; i < before.length; i++) {
-                CHECK.due("state " + i + " behind the fault of " + text, after[i], before[i]);
-            }
-        }
-        CHECK.due("fate(4, 1) is there", yard.fate(4, 1), true);
-        CHECK.due("fate(5, 1) is not", yard.fate(5, 1), false);
+    private static void longestText() {
+        CHECK.about("THE MAP is a text of at most 400 bytes");
+        judged("P".repeat(400), 3, 16);
+        judged("\n".repeat(400), 2, 0);
+        judged("?".repeat(400), 1, 0);
+        judged("P" + DOTS15 + "\n" + (DOTS16 + "\n").repeat(15) + ".".repeat(128), 3, 272);
+        sound("P" + DOTS15 + "\n" + (DOTS16 + "\n").repeat(15));
+        sound("P" + DOTS15 + "\n" + (DOTS16 + "\n").repeat(14) + DOTS16);
     }
 
-    private static int[] stateOf(FleetYard yard) {
-        int[] state = new int[80];
-        int n = 0;
-        for (int what = 0; what <= 12; what++) {
-            state[n++] = yard.count(what);
+    private static void cellsLineByLine() {
+        CHECK.about("CELLS are numbered from 0 on, line by line, WALLS too");
+        Yard yard = Yard.of("#P.S\n#...\nS..P\n");
+        CHECK.due("CELLS", yard.count(0), 12);
+        CHECK.due("of a LINE", yard.count(1), 4);
+        int[] kinds = {0, 3, 1, 2, 0, 1, 1, 1, 2, 1, 1, 3};
+        for (int c = 0; c < kinds.length; c++) {
+            CHECK.due("cell(" + c + ", 0)", yard.cell(c, 0), kinds[c]);
         }
-        for (int what = 0; what <= 13; what++) {
-            state[n++] = yard.vehicle(0, what);
-        }
-        for (int c = 0; c < 8; c++) {
-            state[n++] = yard.cell(c, 0);
-            state[n++] = yard.cell(c, 2);
-            state[n++] = yard.cell(c, 7);
-        }
-        for (int t = 0; t < 12; t++) {
-            state[n++] = yard.trip(0, t);
-        }
-        return state;
+        CHECK.due("cell(12, 0)", yard.cell(12, 0), -1);
     }
 
-    private static void soundMapBeginsAnew() {
-        FleetYard yard = Check.yardOf("P..S\n...S\n");
-        yard.fates(5);
-        yard.fate(0, 8);
-        yard.task(1, 0);
-        yard.run(8);
-        Check.write(yard, "S.S.P\n.....\n");
-        CHECK.due("read()", yard.read(), 0);
-        int[] counts = {10, 5, 1, 2, 0, 0, 0, 0, 0, 0, 0, 0, 0};
-        for (int what = 0; what < counts.length; what++) {
-            CHECK.due("anew: count(" + what + ")", yard.count(what), counts[what]);
+    private static void endpointsByTheirCells() {
+        CHECK.about("STATIONS, and PARKINGS, are numbered from 0 on by their CELLS; VEHICLE v in PARKING v");
+        Yard yard = Yard.of("S.P.S\n.....\nP.S.P\n");
+        int[] ordinals = {0, -1, 0, -1, 1, -1, -1, -1, -1, -1, 1, -1, 2, -1, 2};
+        for (int c = 0; c < ordinals.length; c++) {
+            CHECK.due("cell(" + c + ", 1)", yard.cell(c, 1), ordinals[c]);
         }
-        int[] ofVehicle = {4, 0, 0, 0, 0, 0, 0, 1, 0, 0, 0, -1, 0, 0};
-        for (int what = 0; what < ofVehicle.length; what++) {
-            CHECK.due("anew: vehicle(0, " + what + ")", yard.vehicle(0, what), ofVehicle[what]);
+        int[] homes = {2, 10, 14};
+        for (int v = 0; v < homes.length; v++) {
+            CHECK.due("vehicle(" + v + ", 0)", yard.vehicle(v, 0), homes[v]);
+            CHECK.due("trip(" + v + ", 0)", yard.trip(v, 0), homes[v]);
+            CHECK.due("the VEHICLE in " + homes[v], yard.cell(homes[v], 2), v);
         }
-        CHECK.due("anew: fate(1, 0)", yard.fate(1, 0), false);
-        CHECK.due("anew: told(0, 0)", yard.told(0, 0), -1);
-        CHECK.due("anew: plan(0, 1, 0)", yard.plan(0, 1, 0), -1);
-        CHECK.due("anew: trip(0, 3)", yard.trip(0, 3), 4);
-        for (int i = 0; i < 12; i++) {
-            yard.run(50);
-        }
-        Check.write(yard, "PS");
-        CHECK.due("run(1) above 600", yard.run(1), -1);
-        yard.read();
-        CHECK.due("run(50) of the new map", yard.run(50), 0);
-        CHECK.due("fate 0 is 0 again: none was LOST", yard.count(9), 0);
+        Yard most = Yard.of("PPPPPPSSSSSSSSSS\n" + DOTS16);
+        CHECK.due("the last PARKING", most.cell(5, 1), 5);
+        CHECK.due("its VEHICLE", most.vehicle(5, 0), 5);
+        CHECK.due("the last STATION", most.cell(15, 1), 9);
     }
 
-    private static void cells() {
-        FleetYard yard = Check.yardOf("P#S\n...\n#PS");
-        int[] kinds = {3, 0, 2, 1, 1, 1, 0, 3, 2};
-        int[] ordinals = {0, -1, 0, -1, -1, -1, -1, 1, 1};
-        int[] inside = {0, -1, -1, -1, -1, -1, -1, 1, -1};
+    private static void neighbours() {
+        CHECK.about("NEIGHBOURS of a CELL are those above (0), right (1), below (2), left (3) that are no WALL");
+        Yard yard = Yard.of("P#S\n...\n#PS");
         int[] above = {-1, -1, -1, 0, -1, 2, 3, 4, 5};
         int[] right = {-1, 2, -1, 4, 5, -1, 7, 8, -1};
         int[] below = {3, 4, 5, -1, 7, 8, -1, -1, -1};
         int[] left = {-1, 0, -1, -1, 3, 4, -1, -1, 7};
-        int[][] due = {kinds, ordinals, inside, above, right, below, left};
-        for (int what = 0; what < due.length; what++) {
+        int[][] due = {above, right, below, left};
+        for (int side = 0; side < 4; side++) {
             for (int c = 0; c < 9; c++) {
-                CHECK.due("cell(" + c + ", " + what + ")", yard.cell(c, what), due[what][c]);
+                CHECK.due("cell(" + c + ", " + (side + 3) + ")", yard.cell(c, side + 3), due[side][c]);
             }
         }
-        for (int c = 0; c < 9; c++) {
-            CHECK.due("cell(" + c + ", 7)", yard.cell(c, 7), 0);
-            CHECK.due("cell(" + c + ", 8)", yard.cell(c, 8), -1);
-            CHECK.due("cell(" + c + ", 9)", yard.cell(c, 9), -1);
-            CHECK.due("cell(" + c + ", -1)", yard.cell(c, -1), -1);
+    }
+
+    private static void neighboursOfSmallMaps() {
+        CHECK.about("NEIGHBOURS: none outside the MAP");
+        Yard one = Yard.of("P");
+        for (int what = 3; what <= 6; what++) {
+            CHECK.due("P: cell(0, " + what + ")", one.cell(0, what), -1);
         }
-        for (int what = -1; what <= 9; what++) {
-            CHECK.due("cell(-1, " + what + ")", yard.cell(-1, what), -1);
-            CHECK.due("cell(9, " + what + ")", yard.cell(9, what), -1);
+        sidesAre(Yard.of("P\n.\nS"), 0, -1, -1, 1, -1);
+        sidesAre(Yard.of("P\n.\nS"), 1, 0, -1, 2, -1);
+        sidesAre(Yard.of("P\n.\nS"), 2, 1, -1, -1, -1);
+        sidesAre(Yard.of("P.S"), 0, -1, 1, -1, -1);
+        sidesAre(Yard.of("P.S"), 1, -1, 2, -1, 0);
+        sidesAre(Yard.of("P.S"), 2, -1, -1, -1, 1);
+    }
+
+    private static void neighboursInTheLargestMap() {
+        CHECK.about("NEIGHBOURS: the corners of 256 CELLS");
+        Yard yard = Yard.of("P" + DOTS15 + "\n" + (DOTS16 + "\n").repeat(15));
+        CHECK.due("CELLS", yard.count(0), 256);
+        CHECK.due("of a LINE", yard.count(1), 16);
+        sidesAre(yard, 0, -1, 1, 16, -1);
+        sidesAre(yard, 15, -1, -1, 31, 14);
+        sidesAre(yard, 16, 0, 17, 32, -1);
+        sidesAre(yard, 240, 224, 241, -1, -1);
+        sidesAre(yard, 255, 239, -1, -1, 254);
+        CHECK.due("cell(255, 0)", yard.cell(255, 0), 1);
+        CHECK.due("cell(256, 0)", yard.cell(256, 0), -1);
+    }
+
+    private static void sidesAre(Yard yard, int c, int... due) {
+        for (int side = 0; side < 4; side++) {
+            CHECK.due("cell(" + c + ", " + (side + 3) + ")", yard.cell(c, side + 3), due[side]);
         }
-        CHECK.due("cell(least, 0)", yard.cell(Integer.MIN_VALUE, 0), -1);
-        CHECK.due("cell(greatest, 3)", yard.cell(Integer.MAX_VALUE, 3), -1);
-        CHECK.due("cell(0, least)", yard.cell(0, Integer.MIN_VALUE), -1);
-        CHECK.due("cell(0, greatest)", yard.cell(0, Integer.MAX_VALUE), -1);
     }
 }
