@@ -24,6 +24,17 @@ final class Maps {
     private Maps() {
     }
 
+    /** The maze with ENDPOINTS in it, as in "P57 S28": a PARKING in CELL 57, a STATION in CELL 28. */
+    static String maze(String endpoints) {
+        StringBuilder text = new StringBuilder(MAZE);
+        int perLine = MAZE.indexOf('\n');
+        for (String endpoint : endpoints.split(" ")) {
+            int c = Integer.parseInt(endpoint.substring(1));
+            text.setCharAt(c + c / perLine, endpoint.charAt(0));
+        }
+        return text.toString();
+    }
+
     static String sound(Random random) {
         for (int i = 0; i < 10000; i++) {
             String text = shaped(random);

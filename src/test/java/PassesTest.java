@@ -12,6 +12,7 @@ public final class PassesTest {
     public static void main(String[] args) {
         noneIsWaiting();
         asOftenAsItGoesThere();
+        waitingOfSixVehicles();
         overByALaterActThatGoes();
         notOverByAStay();
         lastActOfAPlan();
@@ -64,6 +65,36 @@ public final class PassesTest {
         Yard two = crossing();
         two.run(1);
         waitingIs(two, "two VEHICLES", new int[] {1, 2, 3, 1, 2, 3}, new int[] {0, 0, 0, 1, 1, 0});
+    }
+
+    // In TICK 0 no ACT is known to be done: all ACTS of all PLANS that go to a CELL are there.
+    private static void waitingOfSixVehicles() {
+        CHECK.about("WAITING of as many VEHICLES as there can be: how many, and the first by MOMENTS");
+        Yard yard = Yard.of("#S#S#S#\nP.....P\nP.....P\nP.....P\n#S#S#S#\n");
+        for (int i = 0; i < 6; i++) {
+            yard.task(i, (i + 3) % 6);
+        }
+        yard.run(1);
+        CHECK.due("given", yard.count(5), 6);
+        int[] often = new int[35];
+        int[] first = new int[35];
+        int[] firstMoment = new int[35];
+        java.util.Arrays.fill(first, -1);
+        for (int v = 0; v < 6; v++) {
+            int acts = yard.vehicle(v, 12);
+            for (int i = 1; i <= acts; i++) {
+                int c = yard.plan(v, i, 2);
+                int moment = yard.plan(v, i, 3);
+                if (c >= 0) {
+                    often[c]++;
+                    if (first[c] < 0 || moment < firstMoment[c]) {
+                        first[c] = v;
+                        firstMoment[c] = moment;
+                    }
+                }
+            }
+        }
+        waitingIs(yard, "six VEHICLES", often, first);
     }
 
     private static void overByALaterActThatGoes() {

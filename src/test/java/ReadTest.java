@@ -135,19 +135,23 @@ public final class ReadTest {
                 yard.read();
             }, later);
         }
-        State.same(CHECK, "behind two vehicles under way", yard -> {
-            yard.write("P.S\nP.S\n");
-            yard.read();
-            yard.row(6, 1, 8);
-            yard.task(0, 1);
-            yard.task(1, 0);
-            yard.run(41);
-            yard.write("P.S\nP.S\n");
-            yard.read();
-        }, yard -> {
-            yard.write("P.S\nP.S\n");
-            yard.read();
-        }, later);
+        int[] ticks = {5, 17, 30, 41};
+        for (int n : ticks) {
+            State.same(CHECK, "behind two VEHICLES in TICK " + n, yard -> {
+                yard.write("P.S\nP.S\n");
+                yard.read();
+                yard.row(8, 0);
+                yard.task(0, 1);
+                yard.task(1, 0);
+                yard.task(0, 1);
+                yard.run(n);
+                yard.write("P.S\nP.S\n");
+                yard.read();
+            }, yard -> {
+                yard.write("P.S\nP.S\n");
+                yard.read();
+            }, later);
+        }
     }
 
     private static void largerAndSmallerMaps() {
@@ -177,9 +181,15 @@ public final class ReadTest {
         yard.ticks(600);
         CHECK.due("no TICK is left", yard.run(1), -1);
         CHECK.due("no TASK is left", yard.task(0, 1), -1);
+        CHECK.due("FINISHED", yard.count(6), 29);
         yard.write(MAP);
         CHECK.due("read()", yard.read(), 0);
-        CHECK.due("count(7)", yard.count(7), 0);
+        CHECK.due("came", yard.count(4), 0);
+        CHECK.due("given", yard.count(5), 0);
+        CHECK.due("FINISHED", yard.count(6), 0);
+        CHECK.due("the TICK's number", yard.count(7), 0);
+        CHECK.due("ACTS done", yard.count(11), 0);
+        CHECK.due("told(0, 0)", yard.told(0, 0), -1);
         CHECK.due("task(1, 0)", yard.task(1, 0), 0);
         CHECK.due("run(50)", yard.run(50), 1);
         CHECK.due("told(0, 4)", yard.told(0, 4), 20);

@@ -6,66 +6,18 @@ public final class TripTest {
     private static final String CROSSING = "P.S\nP.S\n";
     // PARKING 12 in the middle, STATIONS 0, 4, 20, 24 in the corners.
     private static final String SQUARE = "S...S\n.....\n..P..\n.....\nS...S\n";
-    // To STATION 1, to STATION 0 and home again are 298 moves, with the two stays 300 STEPS.
-    private static final String LONGEST = """
-            .......#...#...#
-            .#####...#.#S#..
-            ..#...#.##..#.#.
-            #.#.#..#.P#...#.
-            ..#..#..#..##...
-            .#.#..#..#..####
-            ....#..#..#...#.
-            ###..#..#..##...
-            ...#..#..#...##.
-            .#...###..##..#.
-            .####...#...#...
-            ..#...#..#...###
-            #.#.##.#.S##...#
-            ..#....#..####..
-            .#.###.##.#...#.
-            .......#....#...
-            """;
-    // The same, with other STATIONS 0, 1, 2: from 0 to 2 there are 302 STEPS.
-    private static final String TOO_LONG = LONGEST.replace("#.##.#.S##", "#.##.#..##")
-            .replace("..#...#.\n###", "..#...#S\n###").replace(".##..#.#.", ".S#..#.#.");
+    // To STATION 0, to STATION 1 and home again are 298 moves, with the two stays 300 STEPS.
+    private static final String LONGEST = Maps.maze("P57 S28 S201");
+    // From STATION 0 to STATION 2 there are 302 STEPS, from 1 to 2 there are fewer.
+    private static final String TOO_LONG = Maps.maze("P57 S28 S40 S111");
+    // For TASK 0 2 VEHICLE 0, beside STATION 0, needs 266 STEPS, VEHICLE 1 302.
+    private static final String SECOND_IS_FAR = Maps.maze("P29 P57 S28 S40 S111");
     // For TASK 0 1 VEHICLE 0 needs 302 STEPS, VEHICLE 1 by itself 170.
-    private static final String FIRST_IS_FAR = """
-            .......#...#...#
-            .#####...#.#P#..
-            ..#...#.##..#.#.
-            #.#.#..#.S#...#.
-            ..#..#..#..##...
-            .#.#..#..#..####
-            ....#..#..#...#.
-            ###..#..#..##...
-            ...#..#..#...##.
-            .#...###..##..#.
-            .####...#...#...
-            ..#...#..#P..###
-            #.#.##S#..##...#
-            ..#....#..####..
-            .#.###.##.#...#.
-            .......#....#...
-            """;
+    private static final String FIRST_IS_FAR = Maps.maze("P28 P186 S57 S198");
+    // For TASK 0 1 VEHICLE 0 needs 302 STEPS.
+    private static final String SIX_FAR = Maps.maze("P28 P39 P45 P111 P133 P248 S56 S186");
     // Behind VEHICLE 0 with TASK 1 0, VEHICLE 1 with TASK 0 1 must wait 33 STEPS: 301 in all.
-    private static final String ONE_TOO_LONG = """
-            .......#...#...#
-            .#####...#.#.#..
-            ..#...#P##S.#.#.
-            #.#.#..#..#...#.
-            ..#..#..#..##...
-            .#.#..#..#S.####
-            ....#..#..#...#.
-            ###..#..#..##...
-            ...#..#..#...##.
-            .#...###..##..#.
-            .####...#...#...
-            ..#...#..#...###
-            #.#.##P#..##...#
-            ..#....#..####..
-            .#.###.##.#...#.
-            .......#....#...
-            """;
+    private static final String ONE_TOO_LONG = Maps.maze("P39 P198 S42 S90");
 
     public static void main(String[] args) {
         staysAndGoes();
@@ -88,6 +40,7 @@ public final class TripTest {
         threeHundredAndOne();
         othersThatWouldHaveAPlan();
         laterVehicleWithoutPlan();
+        sixVehiclesWithoutPlan();
         noPlanIsForgottenWithTheMap();
         planFromTheTick();
         noneMeetsAnother();
@@ -369,15 +322,14 @@ public final class TripTest {
         yard.run(20);
         CHECK.due("VEHICLE 0 has no PLAN, VEHICLE 1 is not asked", yard.count(5), 0);
         CHECK.due("told(0, 2)", yard.told(0, 2), -1);
-        Yard alone = given(FIRST_IS_FAR.replace("#P#", "#.#"), 0, 1);
+        Yard alone = given(Maps.maze("P186 S57 S198"), 0, 1);
         CHECK.due("alone it would have one", alone.told(0, 2), 0);
         CHECK.due("of 170 STEPS", alone.plan(0, 0, 1), 170);
     }
 
-    // VEHICLE 1, beside STATION 0, never has a PLAN; VEHICLE 0 has one, each time that it is IDLE.
     private static void laterVehicleWithoutPlan() {
         CHECK.about("If there is none, that TASK waits: until a lesser VEHICLE is IDLE that has one");
-        Yard yard = given(TOO_LONG.replace("#.#S#..", "#.#SP.."), 0, 2, 0, 2, 2, 0);
+        Yard yard = given(SECOND_IS_FAR, 0, 2, 0, 2, 2, 1);
         CHECK.due("VEHICLES", yard.count(2), 2);
         CHECK.due("VEHICLE 0 gets one, VEHICLE 1 none", yard.count(5), 1);
         int last = yard.plan(0, 0, 1);
@@ -386,7 +338,20 @@ public final class TripTest {
         CHECK.due("FINISHED", yard.run(1), 1);
         CHECK.due("VEHICLE 0 gets the next one", yard.told(1, 2), 0);
         CHECK.due("at once", yard.told(1, 3), 2 * last);
-        CHECK.due("the third waits", yard.told(2, 2), -1);
+        CHECK.due("VEHICLE 1 gets the third, for which it has a PLAN", yard.told(2, 2), 1);
+        CHECK.due("at once", yard.told(2, 3), 2 * last);
+    }
+
+    private static void sixVehiclesWithoutPlan() {
+        CHECK.about("If there is none, that TASK waits: with as many VEHICLES as there can be");
+        Yard yard = given(SIX_FAR, 0, 1);
+        CHECK.due("VEHICLES", yard.count(2), 6);
+        yard.run(9);
+        CHECK.due("given", yard.count(5), 0);
+        CHECK.due("told(0, 2)", yard.told(0, 2), -1);
+        for (int v = 0; v < 6; v++) {
+            CHECK.due("IDLE", yard.vehicle(v, 7), 1);
+        }
     }
 
     private static void noPlanIsForgottenWithTheMap() {
