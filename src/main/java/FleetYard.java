@@ -766,7 +766,6 @@ public final class FleetYard {
     /** A trip, moment by moment, and its acts, numbered from 1 on. */
     private static final class Route {
         final int[] cells = new int[MOST_STEPS + 1];
-        final int[] actCells = new int[MOST_STEPS + 1];
         final int[] actMoments = new int[MOST_STEPS + 1];
         int parking;
         int start;
@@ -787,7 +786,7 @@ public final class FleetYard {
 
         void addMove(int c) {
             if (addStep(c)) {
-                addAct(c);
+                addAct();
             }
         }
 
@@ -797,7 +796,7 @@ public final class FleetYard {
 
         void addTurn(int c, int stageAfter) {
             if (addStep(c)) {
-                addAct(NONE);
+                addAct();
                 if (stageAfter == LOADED) {
                     loadingAct = acts;
                 } else {
@@ -815,12 +814,11 @@ public final class FleetYard {
             return true;
         }
 
-        private void addAct(int c) {
+        private void addAct() {
             if (acts < 0 || acts >= MOST_STEPS) {
                 return;
             }
             acts++;
-            actCells[acts] = c;
             actMoments[acts] = start + steps;
         }
 
@@ -838,7 +836,8 @@ public final class FleetYard {
         }
 
         int cellOfAct(int i) {
-            return hasAct(i) ? actCells[i] : NONE;
+            boolean isMove = hasAct(i) && i != loadingAct && i != endingAct;
+            return isMove ? cellAt(actMoments[i]) : NONE;
         }
 
         int momentOfAct(int i) {
@@ -1143,18 +1142,19 @@ public final class FleetYard {
 
     /**
      * Finds the trip with the fewest steps, and of equal ones the first.
-     * It holds a set of cells for each moment and stage: a number for each line, a bit for each
-     * cell of it. So a step of all that can be reached costs a few operations a line.
+     * What can be reached at a moment is held as one number for each line of the map: a bit for
+     * each cell of it, once for each stage. So a step costs a few operations a line.
      */
     private static final class Planner {
-        static final int LAYER = STAGES * MOST_LINES;
+        // More than a line has cells: a bit that is shifted out of its line falls between stages.
+        static final int STAGE_BITS = 20;
 
-        final int[] reached = new int[(MOST_STEPS + 1) * LAYER];
-        final int[] open = new int[MOST_LINES];
-        // Of each stage the cell where staying leads to the next one.
-        final int[] turns = new int[LAYER];
-        int[] heldBefore = new int[MOST_LINES];
-        int[] heldAfter = new int[MOST_LINES];
+        final long[] reached = new long[(MOST_STEPS + 1) * MOST_LINES];
+        final long[] open = new long[MOST_LINES];
+        // Where staying leads to the next stage.
+        final long[] turns = new long[MOST_LINES];
+        long[] heldBefore = new long[MOST_LINES];
+        long[] heldAfter = new long[MOST_LINES];
         YardMap map;
         Account[] accounts;
         int width = 1;
@@ -1192,28 +1192,26 @@ public final class FleetYard {
             Arrays.fill(open, 0);
             for (int c = 0; c < map.cells; c++) {
                 if (map.kindOf(c) == FLOOR || c == from || c == to || c == parking) {
-                    mark(open, 0, c);
+                    markAllStages(open, c);
                 }
             }
             Arrays.fill(turns, 0);
-            mark(turns, rowOf(0, EMPTY), from);
-            mark(turns, rowOf(0, LOADED), to);
+            mark(turns, 0, EMPTY, from);
+            mark(turns, 0, LOADED, to);
         }
 
         private int spread() {
-            clearLayer(0);
-            mark(reached, rowOf(0, EMPTY), parking);
+            clearStep(0);
+            mark(reached, 0, EMPTY, parking);
             markHeld(start);
             for (int step = 0; step < MOST_STEPS; step++) {
-                int[] old = heldBefore;
+                long[] old = heldBefore;
                 heldBefore = heldAfter;
                 heldAfter = old;
                 markHeld(start + step + 1);
                 dropEntered(step);
-                for (int stage = 0; stage < STAGES; stage++) {
-                    spreadStage(step, stage);
-                }
-                if (isReached(rowOf(step + 1, DONE), parking)) {
+                spreadStep(step);
+                if (isReached(step + 1, DONE, parking)) {
                     return step + 1;
                 }
             }
@@ -1224,51 +1222,46 @@ public final class FleetYard {
             Arrays.fill(heldAfter, 0);
             for (int v = 0; v < map.parkingCount && v < accounts.length; v++) {
                 if (v != own) {
-                    mark(heldAfter, 0, accounts[v].route.cellAt(moment));
+                    markAllStages(heldAfter, accounts[v].route.cellAt(moment));
                 }
             }
         }
 
         // Nothing may go on from a cell that another vehicle has at the step's second moment.
         private void dropEntered(int step) {
-            for (int stage = 0; stage < STAGES; stage++) {
-                int now = rowOf(step, stage);
-                for (int line = 0; line < lines; line++) {
-                    reached[now + line] &= ~heldAfter[line];
-                }
+            int now = step * MOST_LINES;
+            for (int line = 0; line < lines; line++) {
+                reached[now + line] &= ~heldAfter[line];
             }
         }
 
-        private void spreadStage(int step, int stage) {
-            int now = rowOf(step, stage);
-            int next = rowOf(step + 1, stage);
-            int turn = rowOf(0, stage);
+        private void spreadStep(int step) {
+            int now = step * MOST_LINES;
+            int next = now + MOST_LINES;
             for (int line = 0; line < lines; line++) {
-                int free = open[line] & ~heldBefore[line] & ~heldAfter[line];
-                int stays = reached[now + line] & ~turns[turn + line];
-                int turned = stage == EMPTY ? 0
-                        : reached[now - MOST_LINES + line] & turns[turn - MOST_LINES + line];
+                long here = reached[now + line];
+                long stays = here & ~turns[line];
+                long turned = (here & turns[line]) << STAGE_BITS;
+                long free = open[line] & ~heldBefore[line] & ~heldAfter[line];
                 reached[next + line] = free & (stays | turned | beside(now, line));
             }
         }
 
         private void keepWhatLeadsHome(int steps) {
-            clearLayer(steps);
-            mark(reached, rowOf(steps, DONE), parking);
+            clearStep(steps);
+            mark(reached, steps, DONE, parking);
             for (int step = steps - 1; step >= 0; step--) {
-                for (int stage = 0; stage < STAGES; stage++) {
-                    keepStage(step, stage);
-                }
+                keepStep(step);
             }
         }
 
-        private void keepStage(int step, int stage) {
-            int now = rowOf(step, stage);
-            int next = rowOf(step + 1, stage);
+        private void keepStep(int step) {
+            int now = step * MOST_LINES;
+            int next = now + MOST_LINES;
             for (int line = 0; line < lines; line++) {
-                int turn = turns[rowOf(0, stage) + line];
-                int stays = reached[next + line] & ~turn;
-                int turning = stage == DONE ? 0 : reached[next + MOST_LINES + line] & turn;
+                long then = reached[next + line];
+                long stays = then & ~turns[line];
+                long turning = then >>> STAGE_BITS & turns[line];
                 reached[now + line] &= stays | turning | beside(next, line);
             }
         }
@@ -1280,8 +1273,8 @@ public final class FleetYard {
             for (int step = 1; step <= steps; step++) {
                 boolean turning = stage == EMPTY && c == from || stage == LOADED && c == to;
                 int stageOfStay = turning ? stage + 1 : stage;
-                if (!isReached(rowOf(step, stageOfStay), c)) {
-                    c = firstWayOn(rowOf(step, stage), c);
+                if (!isReached(step, stageOfStay, c)) {
+                    c = firstWayOn(step, stage, c);
                     route.addMove(c);
                 } else if (turning) {
                     stage = stageOfStay;
@@ -1292,50 +1285,55 @@ public final class FleetYard {
             }
         }
 
-        private int firstWayOn(int row, int c) {
+        private int firstWayOn(int step, int stage, int c) {
             for (int side = 0; side < SIDES; side++) {
                 int next = map.neighbour(c, side);
-                if (isReached(row, next)) {
+                if (isReached(step, stage, next)) {
                     return next;
                 }
             }
             return c;
         }
 
-        private int beside(int row, int line) {
-            int here = reached[row + line];
-            int above = line > 0 ? reached[row + line - 1] : 0;
-            int below = line + 1 < lines ? reached[row + line + 1] : 0;
+        private long beside(int row, int line) {
+            long here = reached[row + line];
+            long above = line > 0 ? reached[row + line - 1] : 0;
+            long below = line + 1 < lines ? reached[row + line + 1] : 0;
             return here << 1 | here >>> 1 | above | below;
         }
 
-        private static int rowOf(int step, int stage) {
-            return step * LAYER + stage * MOST_LINES;
-        }
-
-        private void clearLayer(int step) {
-            int first = rowOf(step, EMPTY);
-            for (int i = 0; i < LAYER && first + i < reached.length; i++) {
+        private void clearStep(int step) {
+            int first = step * MOST_LINES;
+            for (int i = 0; i < MOST_LINES && first + i < reached.length; i++) {
                 reached[first + i] = 0;
             }
         }
 
-        private void mark(int[] set, int row, int c) {
-            if (c < 0 || width <= 0) {
-                return;
-            }
-            int at = row + c / width;
-            if (at >= 0 && at < set.length) {
-                set[at] |= 1 << c % width;
+        private void markAllStages(long[] set, int c) {
+            for (int stage = 0; stage < STAGES; stage++) {
+                mark(set, 0, stage, c);
             }
         }
 
-        private boolean isReached(int row, int c) {
+        private void mark(long[] set, int step, int stage, int c) {
+            if (c < 0 || width <= 0) {
+                return;
+            }
+            int at = step * MOST_LINES + c / width;
+            if (at >= 0 && at < set.length) {
+                set[at] |= 1L << stage * STAGE_BITS + c % width;
+            }
+        }
+
+        private boolean isReached(int step, int stage, int c) {
             if (c < 0 || width <= 0) {
                 return false;
             }
-            int at = row + c / width;
-            return at >= 0 && at < reached.length && (reached[at] >>> c % width & 1) != 0;
+            int at = step * MOST_LINES + c / width;
+            if (at < 0 || at >= reached.length) {
+                return false;
+            }
+            return (reached[at] >>> stage * STAGE_BITS + c % width & 1) != 0;
         }
     }
 }
